@@ -27,6 +27,10 @@ public final class PromiseTest {
         int appendTo(DetourHooker x);
     }
 
+    private interface RegisterAppender {
+        int appendTo(DetourHooker x, int r);
+    }
+
     private static void due(String call, long got, long want) {
         if (got != want) {
             wrong++;
@@ -173,40 +177,32 @@ public final class PromiseTest {
         dueRegisters(x, 0, 7, 0, 0);
     }
 
-    private static void inc() {
-        promise = 3;
+    /** inc and dec: all four registers, the others left alone, and the wrap from one end to the other. */
+    private static void addsToRegister(String name, RegisterAppender append, int kind, int change, int end, int wrapped) {
         for (int i = 0; i < 4; i++) {
             int r = i;
-            appendsAsHalt("inc(" + r + ")", x -> x.inc(r), 1, r);
+            appendsAsHalt(name + "(" + r + ")", x -> append.appendTo(x, r), kind, r);
             DetourHooker x = new DetourHooker();
-            x.inc(r);
+            append.appendTo(x, r);
             x.halt();
             for (int s = 0; s < 4; s++) x.setRegister(s, 10 * s);
             dueRun(x, 0, HALTED, 2);
-            for (int s = 0; s < 4; s++) due("register(" + s + ")", x.register(s), s == r ? 10 * s + 1 : 10 * s);
-            x.setRegister(r, Integer.MAX_VALUE);
+            for (int s = 0; s < 4; s++) due("register(" + s + ")", x.register(s), s == r ? 10 * s + change : 10 * s);
+            x.setRegister(r, end);
             dueRun(x, 0, HALTED, 2);
-            due("the greatest int plus 1", x.register(r), Integer.MIN_VALUE);
+            due(name + " of " + end, x.register(r), wrapped);
         }
-        for (int r : NO_REGISTERS) refusesArgument("inc(" + r + ")", x -> x.inc(r));
+        for (int r : NO_REGISTERS) refusesArgument(name + "(" + r + ")", x -> append.appendTo(x, r));
+    }
+
+    private static void inc() {
+        promise = 3;
+        addsToRegister("inc", (x, r) -> x.inc(r), 1, 1, Integer.MAX_VALUE, Integer.MIN_VALUE);
     }
 
     private static void dec() {
         promise = 4;
-        for (int i = 0; i < 4; i++) {
-            int r = i;
-            appendsAsHalt("dec(" + r + ")", x -> x.dec(r), 2, r);
-            DetourHooker x = new DetourHooker();
-            x.dec(r);
-            x.halt();
-            for (int s = 0; s < 4; s++) x.setRegister(s, 10 * s);
-            dueRun(x, 0, HALTED, 2);
-            for (int s = 0; s < 4; s++) due("register(" + s + ")", x.register(s), s == r ? 10 * s - 1 : 10 * s);
-            x.setRegister(r, Integer.MIN_VALUE);
-            dueRun(x, 0, HALTED, 2);
-            due("the least int minus 1", x.register(r), Integer.MAX_VALUE);
-        }
-        for (int r : NO_REGISTERS) refusesArgument("dec(" + r + ")", x -> x.dec(r));
+        addsToRegister("dec", (x, r) -> x.dec(r), 2, -1, Integer.MIN_VALUE, Integer.MAX_VALUE);
     }
 
     private static void move() {
