@@ -6,85 +6,23 @@ import java.util.Set;
 import java.util.TreeSet;
 
 /** Each promise by hand: ordinary inputs, the edges that the document names, and wrong inputs. */
-public final class PromiseTest {
-    private static final int BAD_ARG = -1;
-    private static final int FULL = -2;
-    private static final int HOOKED = -3;
-    private static final int UNFIT = -4;
-    private static final int NO_RUN = 0;
-    private static final int HALTED = 1;
-    private static final int BAD_CODE = 2;
-    private static final int OVERFLOW = 3;
-    private static final int TIRED = 4;
-    private static final int[] NO_REGISTERS = {-1, 4, 5, 64, 256, Integer.MIN_VALUE, Integer.MAX_VALUE};
-    private static final int[] NO_TARGETS = {-129, 128, 255, 256, -256, Integer.MIN_VALUE, Integer.MAX_VALUE};
-    private static final int[] NO_ADDRESSES = {-1, 64, 65, 128, Integer.MIN_VALUE, Integer.MAX_VALUE};
-
-    private static int wrong = 0;
-    private static int promise = 0;
-
-    private interface Appender {
-        int appendTo(DetourHooker x);
-    }
-
+public final class PromiseTest extends Checks {
     private interface RegisterAppender {
         int appendTo(DetourHooker x, int r);
     }
 
-    private static void due(String call, long got, long want) {
-        if (got != want) {
-            wrong++;
-            System.out.println("promise " + promise + ": " + call + " answered " + got + ", due is " + want);
-        }
-    }
-
-    private static void dueText(String what, String got, String want) {
-        if (!got.equals(want)) {
-            wrong++;
-            System.out.println("promise " + promise + ": " + what + " is " + got + ", due is " + want);
-        }
-    }
-
-    /** All that can be read of the object; at most 140 of its 512 calls. */
-    private static String stateOf(DetourHooker x) {
-        StringBuilder text = new StringBuilder();
-        int length = x.length();
-        text.append("code");
-        for (int i = 0; i < length; i++) text.append(' ').append(x.peek(i));
-        text.append(" registers");
-        for (int r = 0; r < 4; r++) text.append(' ').append(x.register(r));
-        text.append(" hooks ").append(x.hooks()).append(':');
-        for (int a = 0; a < 64; a++) {
-            int count = x.calls(a);
-            if (count != HOOKED) text.append(' ').append(a).append('=').append(count);
-        }
-        text.append(" ending ").append(x.ending()).append(" executed ").append(x.executed());
-        return text.toString();
-    }
-
-    private static DetourHooker halts(int n) {
-        DetourHooker x = new DetourHooker();
-        for (int i = 0; i < n; i++) x.halt();
-        return x;
-    }
-
-    private static void dueBytes(DetourHooker x, int from, int... bytes) {
-        for (int i = 0; i < bytes.length; i++) due("peek(" + (from + i) + ")", x.peek(from + i), bytes[i]);
-        due("length()", x.length(), from + bytes.length);
-    }
-
     /** What every appending call has in common with halt. */
-    private static void appendsAsHalt(String call, Appender appender, int... bytes) {
+    private static void appendsAsHalt(String call, Call appender, int... bytes) {
         int size = bytes.length;
         for (int before = 0; before <= 64; before++) {
             DetourHooker x = halts(before);
             if (before + size <= 64) {
-                due(call + " at " + before, appender.appendTo(x), before);
+                due(call + " at " + before, appender.on(x), before);
                 dueBytes(x, before, bytes);
                 due("peek behind the code", x.peek(before + size), BAD_ARG);
             } else {
                 String state = stateOf(x);
-                due(call + " at " + before, appender.appendTo(x), FULL);
+                due(call + " at " + before, appender.on(x), FULL);
                 dueText("state after a refused " + call, stateOf(x), state);
                 due("halt() after a refused " + call, x.halt(), before < 64 ? before : FULL);
             }
@@ -93,37 +31,28 @@ public final class PromiseTest {
             DetourHooker x = halts(before);
             due("hook(0)", x.hook(0), 3);
             String state = stateOf(x);
-            due(call + " with a hook at length " + before, appender.appendTo(x), HOOKED);
+            due(call + " with a hook at length " + before, appender.on(x), HOOKED);
             dueText("state after a refused " + call, stateOf(x), state);
             due("unhook(0)", x.unhook(0), 0);
-            due(call + " after the unhook", appender.appendTo(x), before == 64 ? FULL : before);
+            due(call + " after the unhook", appender.on(x), before == 64 ? FULL : before);
         }
     }
 
     /** A bad argument is told before a hook and before full code, and changes nothing. */
-    private static void refusesArgument(String call, Appender appender) {
+    private static void refusesArgument(String call, Call appender) {
         DetourHooker empty = new DetourHooker();
-        due(call, appender.appendTo(empty), BAD_ARG);
+        due(call, appender.on(empty), BAD_ARG);
         due("length() after " + call, empty.length(), 0);
         DetourHooker full = halts(64);
-        due(call + " with full code", appender.appendTo(full), BAD_ARG);
+        due(call + " with full code", appender.on(full), BAD_ARG);
         due("hook(0)", full.hook(0), 3);
         String state = stateOf(full);
-        due(call + " with full code and a hook", appender.appendTo(full), BAD_ARG);
+        due(call + " with full code and a hook", appender.on(full), BAD_ARG);
         dueText("state after " + call, stateOf(full), state);
     }
 
-    private static void dueRun(DetourHooker x, int a, int ending, int executed) {
-        due("run(" + a + ")", x.run(a), ending);
-        due("ending()", x.ending(), ending);
-        due("executed()", x.executed(), executed);
-    }
-
-    private static void dueRegisters(DetourHooker x, int... values) {
-        for (int r = 0; r < 4; r++) due("register(" + r + ")", x.register(r), values[r]);
-    }
-
     private static void publicFace() {
+        about("the public face");
         due("BAD_ARG", DetourHooker.BAD_ARG, BAD_ARG);
         due("FULL", DetourHooker.FULL, FULL);
         due("HOOKED", DetourHooker.HOOKED, HOOKED);
@@ -152,7 +81,7 @@ public final class PromiseTest {
     }
 
     private static void newObject() {
-        promise = 1;
+        about("promise 1");
         DetourHooker x = new DetourHooker();
         dueText("a new object", stateOf(x), "code registers 0 0 0 0 hooks 0: ending 0 executed 0");
         for (int a = 0; a < 64; a++) {
@@ -169,7 +98,7 @@ public final class PromiseTest {
     }
 
     private static void halt() {
-        promise = 2;
+        about("promise 2");
         appendsAsHalt("halt()", x -> x.halt(), 0);
         DetourHooker x = halts(1);
         x.setRegister(1, 7);
@@ -178,7 +107,8 @@ public final class PromiseTest {
     }
 
     /** inc and dec: all four registers, the others left alone, and the wrap from one end to the other. */
-    private static void addsToRegister(String name, RegisterAppender append, int kind, int change, int end, int wrapped) {
+    private static void addsToRegister(
+            String name, RegisterAppender append, int kind, int change, int end, int wrapped) {
         for (int i = 0; i < 4; i++) {
             int r = i;
             appendsAsHalt(name + "(" + r + ")", x -> append.appendTo(x, r), kind, r);
@@ -196,17 +126,17 @@ public final class PromiseTest {
     }
 
     private static void inc() {
-        promise = 3;
-        addsToRegister("inc", (x, r) -> x.inc(r), 1, 1, Integer.MAX_VALUE, Integer.MIN_VALUE);
+        about("promise 3");
+        addsToRegister("inc", (x, r) -> x.inc(r), 1, 1, GREATEST, LEAST);
     }
 
     private static void dec() {
-        promise = 4;
-        addsToRegister("dec", (x, r) -> x.dec(r), 2, -1, Integer.MIN_VALUE, Integer.MAX_VALUE);
+        about("promise 4");
+        addsToRegister("dec", (x, r) -> x.dec(r), 2, -1, LEAST, GREATEST);
     }
 
     private static void move() {
-        promise = 5;
+        about("promise 5");
         for (int i = 0; i < 16; i++) {
             int r = i % 4;
             int s = i / 4;
@@ -226,7 +156,7 @@ public final class PromiseTest {
     }
 
     private static void jump() {
-        promise = 6;
+        about("promise 6");
         int[][] targets = {{-128, 128}, {-127, 129}, {-1, 255}, {0, 0}, {1, 1}, {126, 126}, {127, 127}};
         for (int[] t : targets) appendsAsHalt("jump(" + t[0] + ")", x -> x.jump(t[0]), 4, t[1]);
         for (int bad : NO_TARGETS) refusesArgument("jump(" + bad + ")", x -> x.jump(bad));
@@ -255,7 +185,7 @@ public final class PromiseTest {
     }
 
     private static void branch() {
-        promise = 7;
+        about("promise 7");
         int[][] targets = {{-128, 128}, {-1, 255}, {0, 0}, {127, 127}};
         for (int i = 0; i < 4; i++) {
             int r = i;
@@ -271,7 +201,7 @@ public final class PromiseTest {
             dueRun(x, 0, HALTED, 3);
             due("register beside a branch not taken", x.register((r + 1) % 4), 1);
             due("register beside a branch not taken", x.register((r + 2) % 4), 0);
-            int[] values = {1, -1, 256, Integer.MIN_VALUE, Integer.MAX_VALUE};
+            int[] values = {1, -1, 256, LEAST, GREATEST};
             for (int k = 0; k < values.length; k++) {
                 x.setRegister(r, values[k]);
                 dueRun(x, 0, HALTED, 4);
@@ -286,7 +216,7 @@ public final class PromiseTest {
     }
 
     private static void call() {
-        promise = 8;
+        about("promise 8");
         int[][] targets = {{-128, 128}, {-127, 129}, {-1, 255}, {0, 0}, {1, 1}, {127, 127}};
         for (int[] t : targets) appendsAsHalt("call(" + t[0] + ")", x -> x.call(t[0]), 6, t[1]);
         for (int bad : NO_TARGETS) refusesArgument("call(" + bad + ")", x -> x.call(bad));
@@ -315,7 +245,7 @@ public final class PromiseTest {
     }
 
     private static void giveBack() {
-        promise = 9;
+        about("promise 9");
         appendsAsHalt("giveBack()", x -> x.giveBack(), 7);
         DetourHooker x = new DetourHooker();
         x.giveBack();
@@ -339,7 +269,7 @@ public final class PromiseTest {
     }
 
     private static void where() {
-        promise = 10;
+        about("promise 10");
         for (int i = 0; i < 4; i++) {
             int r = i;
             appendsAsHalt("where(" + r + ")", x -> x.where(r), 8, r);
@@ -366,7 +296,7 @@ public final class PromiseTest {
     }
 
     private static void length() {
-        promise = 11;
+        about("promise 11");
         DetourHooker x = new DetourHooker();
         due("length()", x.length(), 0);
         x.halt();
@@ -383,7 +313,7 @@ public final class PromiseTest {
     }
 
     private static void peek() {
-        promise = 12;
+        about("promise 12");
         DetourHooker x = new DetourHooker();
         x.halt();
         x.inc(3);
@@ -411,7 +341,7 @@ public final class PromiseTest {
     }
 
     private static void clear() {
-        promise = 13;
+        about("promise 13");
         DetourHooker x = new DetourHooker();
         due("clear()", x.clear(), 0);
         x.inc(0);
@@ -453,9 +383,9 @@ public final class PromiseTest {
     }
 
     private static void setRegister() {
-        promise = 14;
+        about("promise 14");
         DetourHooker x = new DetourHooker();
-        int[] values = {0, 1, -1, 255, 256, Integer.MIN_VALUE, Integer.MAX_VALUE};
+        int[] values = {0, 1, -1, 255, 256, LEAST, GREATEST};
         for (int r = 0; r < 4; r++) {
             for (int v : values) {
                 due("setRegister(" + r + ", " + v + ")", x.setRegister(r, v), 0);
@@ -472,7 +402,7 @@ public final class PromiseTest {
     }
 
     private static void register() {
-        promise = 15;
+        about("promise 15");
         DetourHooker x = new DetourHooker();
         for (int r = 0; r < 4; r++) x.setRegister(r, -5 - r);
         dueRegisters(x, -5, -6, -7, -8);
@@ -480,18 +410,8 @@ public final class PromiseTest {
         dueRegisters(x, -5, -6, -7, -8);
     }
 
-    private static DetourHooker codeOf(int... sizes) {
-        DetourHooker x = new DetourHooker();
-        for (int size : sizes) {
-            if (size == 1) x.halt();
-            if (size == 2) x.inc(0);
-            if (size == 3) x.branch(0, 127);
-        }
-        return x;
-    }
-
     private static void hookHeads() {
-        promise = 16;
+        about("promise 16");
         int[][] fitting = {
             {3, 1, 1, 1}, {4, 1, 1, 2}, {5, 1, 1, 3}, {3, 1, 2}, {4, 1, 3}, {3, 2, 1}, {4, 2, 2}, {5, 2, 3}, {3, 3},
             {3, 1, 1, 1, 1}, {3, 1, 2, 3}, {3, 3, 3}, {4, 2, 2, 1}};
@@ -560,10 +480,7 @@ public final class PromiseTest {
             for (int target = -2; target <= 14; target++) {
                 for (int at = 0; at <= 8; at += 4) {
                     DetourHooker x = halts(at);
-                    int next = at + (kind == 5 ? 3 : 2);
-                    if (kind == 4) x.jump(target - next);
-                    if (kind == 5) x.branch(1, target - next);
-                    if (kind == 6) x.call(target - next);
+                    appendTo(x, kind, target);
                     while (x.length() < 12) x.halt();
                     int first = at == 4 ? 7 : 4;
                     if (at == 0) first = 5;
@@ -574,11 +491,8 @@ public final class PromiseTest {
             }
             // From inside the head itself, and to the inside of an instruction.
             for (int target = -1; target <= 6; target++) {
-                DetourHooker x = halts(0);
-                int size = kind == 5 ? 3 : 2;
-                if (kind == 4) x.jump(target - size);
-                if (kind == 5) x.branch(1, target - size);
-                if (kind == 6) x.call(target - size);
+                DetourHooker x = new DetourHooker();
+                appendTo(x, kind, target);
                 x.inc(0);
                 x.halt();
                 int head = kind == 5 ? 3 : 4;
@@ -606,7 +520,7 @@ public final class PromiseTest {
     }
 
     private static void unhook() {
-        promise = 17;
+        about("promise 17");
         DetourHooker x = halts(9);
         for (int bad : NO_ADDRESSES) due("unhook(" + bad + ")", x.unhook(bad), BAD_ARG);
         due("unhook(0)", x.unhook(0), HOOKED);
@@ -631,7 +545,7 @@ public final class PromiseTest {
     }
 
     private static void calls() {
-        promise = 18;
+        about("promise 18");
         DetourHooker x = halts(9);
         for (int bad : NO_ADDRESSES) due("calls(" + bad + ")", x.calls(bad), BAD_ARG);
         due("calls(0)", x.calls(0), HOOKED);
@@ -684,7 +598,7 @@ public final class PromiseTest {
     }
 
     private static void hooks() {
-        promise = 19;
+        about("promise 19");
         DetourHooker x = halts(20);
         for (int i = 0; i < 4; i++) {
             due("hooks()", x.hooks(), i);
@@ -704,7 +618,7 @@ public final class PromiseTest {
     }
 
     private static void run() {
-        promise = 20;
+        about("promise 20");
         DetourHooker x = new DetourHooker();
         x.inc(0);
         x.halt();
@@ -785,7 +699,7 @@ public final class PromiseTest {
     }
 
     private static void ending() {
-        promise = 21;
+        about("promise 21");
         DetourHooker x = new DetourHooker();
         due("ending()", x.ending(), NO_RUN);
         x.run(-1);
@@ -809,7 +723,7 @@ public final class PromiseTest {
     }
 
     private static void executed() {
-        promise = 22;
+        about("promise 22");
         DetourHooker x = new DetourHooker();
         due("executed()", x.executed(), 0);
         x.run(64);
@@ -858,7 +772,6 @@ public final class PromiseTest {
         run();
         ending();
         executed();
-        System.out.println(wrong == 0 ? "all answers are as due" : wrong + " answers are not as due");
-        if (wrong != 0) System.exit(1);
+        end();
     }
 }
