@@ -112,7 +112,7 @@ public final class StoreBoundaryTest extends Checks {
         DetourHooker x = new DetourHooker();
         for (int i = 0; i < 32; i++) x.jump(0);
         x.clear();
-        for (int a = 0; a < 64; a++) due("run(" + a + ") after clear", x.run(a), BAD_CODE);
+        for (int a = 0; a < 64; a++) dueRun(x, a, BAD_CODE, 0);
         for (int a = 0; a < 64; a++) due("hook(" + a + ") after clear", x.hook(a), UNFIT);
     }
 
