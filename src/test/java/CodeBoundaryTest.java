@@ -277,7 +277,7 @@ public final class CodeBoundaryTest extends Checks {
         dueRegisters(x, 1, 1, 0, 0);
     }
 
-    /** From eight deep each return goes to its own call: the where behind it tells which. */
+    /** Each return goes behind its own call: the where there tells which. */
     private static void lastInFirstOut() {
         DetourHooker x = new DetourHooker();
         x.call(6);

@@ -227,7 +227,7 @@ public final class HookBoundaryTest extends Checks {
         }
     }
 
-    /** Two heads away is as far as anything, whichever of the four hooked ones is the near one. */
+    /** The first, the last or one between: each of the hooked heads is in the way, and only as far as it goes. */
     private static void anyOfTheHookedHeads() {
         int[] hooked = {0, 6, 12};
         for (int near : hooked) {

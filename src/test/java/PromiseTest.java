@@ -1,10 +1,3 @@
-import java.lang.reflect.Constructor;
-import java.lang.reflect.Field;
-import java.lang.reflect.Method;
-import java.lang.reflect.Modifier;
-import java.util.Set;
-import java.util.TreeSet;
-
 /** Each promise by hand: ordinary inputs, the edges that the document names, and wrong inputs. */
 public final class PromiseTest extends Checks {
     private interface RegisterAppender {
@@ -49,35 +42,6 @@ public final class PromiseTest extends Checks {
         String state = stateOf(full);
         due(call + " with full code and a hook", appender.on(full), BAD_ARG);
         dueText("state after " + call, stateOf(full), state);
-    }
-
-    private static void publicFace() {
-        about("the public face");
-        due("BAD_ARG", DetourHooker.BAD_ARG, BAD_ARG);
-        due("FULL", DetourHooker.FULL, FULL);
-        due("HOOKED", DetourHooker.HOOKED, HOOKED);
-        due("UNFIT", DetourHooker.UNFIT, UNFIT);
-        due("NO_RUN", DetourHooker.NO_RUN, NO_RUN);
-        due("HALTED", DetourHooker.HALTED, HALTED);
-        due("BAD_CODE", DetourHooker.BAD_CODE, BAD_CODE);
-        due("OVERFLOW", DetourHooker.OVERFLOW, OVERFLOW);
-        due("TIRED", DetourHooker.TIRED, TIRED);
-        Set<String> open = new TreeSet<>();
-        for (Field f : DetourHooker.class.getDeclaredFields()) {
-            if (!Modifier.isPrivate(f.getModifiers())) open.add(f.getName());
-        }
-        dueText("the open fields", open.toString(),
-            "[BAD_ARG, BAD_CODE, FULL, HALTED, HOOKED, NO_RUN, OVERFLOW, TIRED, UNFIT]");
-        open.clear();
-        for (Method m : DetourHooker.class.getDeclaredMethods()) {
-            if (!Modifier.isPrivate(m.getModifiers())) open.add(m.getName() + m.getParameterCount());
-        }
-        dueText("the open methods", open.toString(),
-            "[branch2, call1, calls1, clear0, dec1, ending0, executed0, giveBack0, halt0, hook1, hooks0, inc1, "
-                + "jump1, length0, move2, peek1, register1, run1, setRegister2, unhook1, where1]");
-        Constructor<?>[] constructors = DetourHooker.class.getDeclaredConstructors();
-        due("the number of constructors", constructors.length, 1);
-        due("the class is public and final", DetourHooker.class.getModifiers(), Modifier.PUBLIC | Modifier.FINAL);
     }
 
     private static void newObject() {
@@ -747,7 +711,6 @@ public final class PromiseTest extends Checks {
     }
 
     public static void main(String[] args) {
-        publicFace();
         newObject();
         halt();
         inc();
